@@ -900,6 +900,7 @@ public final class DragonTithe {
         private static final int WORDS = 6;
         private static final int[] NUMBERS_BEHIND = {1, 3, 1, 2, 2, 1};
         private static final int MOST_NUMBERS = 3;
+        private static final int MOST_FIGURES = 2;
         // The shortest ITEM, guard0; has seven bytes: 150 bytes hold fewer than these.
         private static final int MOST_ITEMS = 30;
 
@@ -1002,13 +1003,13 @@ public final class DragonTithe {
         }
 
         private void stepOverNumber() {
-            // A figure right behind a number is a third one: its number can stand nowhere.
-            sort = isFigure(place - 1) ? STRANGE : NUMBER;
             value = text[place] - '0';
-            if (isFigure(behind)) {
+            while (behind < length && isFigure(behind)) {
                 value = value * 10 + text[behind] - '0';
                 behind++;
             }
+            // All figures in a row are one TOKEN; with a third one it is a number that can stand nowhere.
+            sort = behind - place > MOST_FIGURES ? STRANGE : NUMBER;
         }
 
         private boolean tokenIs(String name) {

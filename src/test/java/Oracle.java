@@ -209,17 +209,11 @@ final class Oracle {
     int clear() { int had = text.length(); text.setLength(0); return had; }
 
     int read() {
-        // Tokens by hand of regular expressions; a third figure is a token of its own that fits nowhere.
-        java.util.regex.Matcher m = java.util.regex.Pattern
-            .compile("[a-z]+|(?<![0-9])[0-9]{1,2}|;|[^ ]", java.util.regex.Pattern.DOTALL).matcher(text);
+        // Tokens by hand of regular expressions; all figures in a row are one token, which is a number only if it has 1 or 2.
+        java.util.regex.Matcher m = java.util.regex.Pattern.compile("[a-z]+|[0-9]+|[^ ]", java.util.regex.Pattern.DOTALL).matcher(text);
         List<String> tokens = new ArrayList<>();
         List<Integer> places = new ArrayList<>();
         while (m.find()) { tokens.add(m.group()); places.add(m.start()); }
-        // third figures: a one-character figure token right behind a figure
-        for (int i = 0; i < tokens.size(); i++) {
-            int p = places.get(i);
-            if (Character.isDigit(tokens.get(i).charAt(0)) && p > 0 && Character.isDigit(text.charAt(p - 1))) tokens.set(i, "?");
-        }
         int t = 0, items = 0;
         World w = new World();
         int refusedItem = -1;
@@ -232,7 +226,7 @@ final class Oracle {
             t++;
             for (int i = 0; i < due; i++, t++) {
                 if (t >= tokens.size()) return -10 - text.length();
-                if (!tokens.get(t).matches("[0-9]+")) return -10 - places.get(t);
+                if (!tokens.get(t).matches("[0-9]{1,2}")) return -10 - places.get(t);
                 numbers.add(Integer.parseInt(tokens.get(t)));
             }
             if (t >= tokens.size()) return -10 - text.length();

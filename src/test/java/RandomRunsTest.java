@@ -125,14 +125,22 @@ public final class RandomRunsTest {
         if (r.nextInt(3) == 0 && s.length() > 0) {
             int at = r.nextInt(s.length());
             String odd = " ;0123459azct#A\u0000\u007f";
-            switch (r.nextInt(4)) {
+            switch (r.nextInt(5)) {
                 case 0: s.deleteCharAt(at); break;
                 case 1: s.setLength(at); break;
                 case 2: s.insert(at, odd.charAt(r.nextInt(odd.length()))); break;
+                case 3: s.insert(at, figures(r)); break;
                 default: s.setCharAt(at, odd.charAt(r.nextInt(odd.length())));
             }
         }
         return s.length() > 170 ? s.substring(0, 170) : s.toString();
+    }
+
+    /** One to four figures: next to others, or by themselves, they make numbers that can not stand. */
+    private static String figures(Random r) {
+        StringBuilder s = new StringBuilder();
+        for (int i = r.nextInt(4); i >= 0; i--) s.append(r.nextInt(10));
+        return s.toString();
     }
 
     private static String blanks(Random r) {
