@@ -105,6 +105,27 @@ public final class EdgesAdviceTest extends Edges {
         least(with(lent, x -> x.moon(3, false)), 0, 1, 1, 1, NONE);
     }
 
+    static void p19_two_moves_to_the_first_village() {
+        least(with(county(2), x -> x.lot(0, 1, 50), x -> x.lot(0, 1, 50)), 1, 2, 0, 0, 10);
+    }
+
+    static void p19_one_dragon() {
+        least(living(50, 40), 0, 0, 5, NONE, NONE);
+    }
+
+    static void p19_asked_again_behind_another_one() {
+        DragonTithe x = last(5, 8, 2).make();
+        due("least(16, 2, 2)", x.least(16, 2, 2), 94);
+        due("least(16, 0, 2)", x.least(16, 0, 2), NONE);
+        due("least(16, 0, 1)", x.least(16, 0, 1), NONE);
+        due("least(16, 2, 1)", x.least(16, 2, 1), 84);
+        due("least(16, 1, 2)", x.least(16, 1, 2), NONE);
+        due("least(31, 2, 0)", x.least(31, 2, 0), 0);
+        x.county(1);
+        due("least(0, 2, 1)", x.least(0, 2, 1), NONE);
+        due("least(0, 2, 0)", x.least(0, 2, 0), 0);
+    }
+
     // ---- 20 chance
 
     static void p20_village_is_0_to_n_less_1() {
@@ -155,6 +176,19 @@ public final class EdgesAdviceTest extends Edges {
         makes("no LOTS behind 7 by 10", with(Edges::rich, x -> x.county(3)), x -> x.chance(2), 0, 1);
     }
 
+    static void p20_asked_again_in_a_lesser_county() {
+        DragonTithe x = fifties(5).make();
+        x.move(0, 4);
+        x.chance(4);
+        fraction(x, 1, 1);
+        x.county(2);
+        x.lot(0, 1, 9);
+        x.chance(0);
+        fraction(x, 0, 1);
+        x.chance(1);
+        fraction(x, 1, 1);
+    }
+
     // ---- 21 mean
 
     static void p21_village_is_none_to_n_less_1() {
@@ -186,6 +220,22 @@ public final class EdgesAdviceTest extends Edges {
         makes("mean(4)", most, x -> x.mean(4), 100, 1);
         makes("mean(NONE)", with(most, x -> x.cloud(4, 9)), x -> x.mean(NONE), 10, 1);
         makes("mean(3)", most, x -> x.mean(3), 0, 1);
+    }
+
+    static void p21_one_dragon() {
+        makes("mean(NONE)", living(50, 40), x -> x.mean(NONE), 5, 1);
+        makes("mean(1)", living(50, 40), x -> x.mean(1), 0, 1);
+    }
+
+    static void p21_asked_again_in_a_lesser_county() {
+        DragonTithe x = fifties(5).make();
+        x.mean(NONE);
+        x.county(1);
+        x.mean(NONE);
+        fraction(x, 0, 1);
+        x.lot(0, 0, 20);
+        x.mean(NONE);
+        fraction(x, 2, 1);
     }
 
     // ---- 22 painting
@@ -434,6 +484,16 @@ public final class EdgesAdviceTest extends Edges {
         game(with(living(14, 99, 10), x -> x.cloud(2, 10)), 2, 0, 12, 10);
     }
 
+    static void p25_asked_again_behind_another_one() {
+        DragonTithe x = living(16, 10, 10).make();
+        due("game(0, 1, 0)", x.game(0, 1, 0), 16);
+        due("game(0, 1, 0)", x.game(0, 1, 0), 16);
+        due("game(1, 2, 0)", x.game(1, 2, 0), 0);
+        due("game(0, 2, 1)", x.game(0, 2, 1), 0);
+        due("game(1, 2, 1)", x.game(1, 2, 1), NONE);
+        due("game(0, 1, 0)", x.game(0, 1, 0), 16);
+    }
+
     // ---- 26 league
 
     static void p26_some_are_bits_of_the_villages() {
@@ -551,6 +611,11 @@ public final class EdgesAdviceTest extends Edges {
     static void p28_growth_and_odds_as_they_are_do_not_matter() {
         asks("pays(0, 1)", with(living(50), x -> x.growth(9)), x -> x.pays(0, 1), 5);
         asks("pays(0, 1)", with(living(50), x -> x.cloud(0, 10)), x -> x.pays(0, 1), 5);
+    }
+
+    static void p28_one_dragon() {
+        asks("pays(1, 1)", living(50, 40), x -> x.pays(1, 1), 0);
+        asks("pays(0, 1)", living(50, 40), x -> x.pays(0, 1), 5);
     }
 
     // ---- 29 told
@@ -678,6 +743,29 @@ public final class EdgesAdviceTest extends Edges {
         fit(with(most, x -> x.told(0, 99)), 1, 0, NONE);
     }
 
+    static void p30_one_dragon() {
+        fit(with(living(50, 40), x -> x.told(0, 9)), 1, 0, NONE);
+    }
+
+    static void p30_asked_again_behind_another_one() {
+        DragonTithe x = fifties(5).make();
+        due("fit(3, 1)", x.fit(3, 1), 32767);
+        due("fit(1, 1)", x.fit(1, 1), 31);
+        due("fit(2, 0)", x.fit(2, 0), 1);
+        due("fit(2, 0)", x.fit(2, 0), 1);
+        x.told(0, 5);
+        due("fit(1, 0)", x.fit(1, 0), 31);
+        due("fit(1, 1)", x.fit(1, 1), 0);
+        x.county(1);
+        due("fit(1, 0)", x.fit(1, 0), 2);
+        due("fit(3, 0)", x.fit(3, 0), 8);
+        x.lot(0, 0, 50);
+        x.told(0, 0);
+        due("fit(1, 0)", x.fit(1, 0), 1);
+        due("fit(1, 1)", x.fit(1, 1), 1);
+        due("fit(3, 1)", x.fit(3, 1), 1024 + 32 + 1);
+    }
+
     // ---- 31 drawn
 
     /** One DECOY of 99 HEADS in VILLAGE v of n, of these ODDS: 1 is TAKEN in each MOON in which it is not hidden. */
@@ -749,6 +837,15 @@ public final class EdgesAdviceTest extends Edges {
                 due("VILLAGE " + v + " of " + n, decoy(n, v, 5).make().drawn(60, 4321), clear(n, v, 5, 60, 4321));
             }
         }
+    }
+
+    static void p31_one_dragon() {
+        asks("drawn(1, 1)", living(50, 40), x -> x.drawn(1, 1), 5);
+    }
+
+    static void p31_of_all_villages() {
+        // 5 of 50, then 5 of 49, 5 of 45, 5 of 44: they take turns.
+        asks("drawn(4, 1)", living(50, 49), x -> x.drawn(4, 1), 20);
     }
 
     static void p31_heads_run_out() {

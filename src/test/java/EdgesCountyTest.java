@@ -26,6 +26,14 @@ public final class EdgesCountyTest extends Edges {
         refused("drop()", Edges::fresh, DragonTithe::drop, NO, AS_NO);
     }
 
+    static void p01_first_roads_are_not_guarded() {
+        Maker roads = with(Edges::fresh, x -> x.road(0, 1), x -> x.road(1, 2), x -> x.road(2, 0));
+        for (int k = 0; k < 3; k++) {
+            int road = k;
+            refused("guard(" + k + ", false)", roads, x -> x.guard(road, false), NO, AS_NO);
+        }
+    }
+
     static void p01_odds_told_and_growth_are_0() {
         DragonTithe x = fresh();
         for (int v = 0; v < 3; v++) due("cloud(" + v + ", 1)", x.cloud(v, 1), 0);

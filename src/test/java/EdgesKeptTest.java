@@ -180,6 +180,24 @@ public final class EdgesKeptTest extends Edges {
         due("undo()", x.undo(), NO);
     }
 
+    static void p34_what_may_be_undone_is_kept_whatever_came_since() {
+        DragonTithe x = rich();
+        x.image(1);
+        x.county(1);
+        x.lot(0, 0, 99);
+        x.lot(0, 0, 1);
+        for (int i = 0; i < 10; i++) x.drive(i % 2, 1 - i % 2, 1);
+        x.from(1);
+        int[][] want = {{26, 46, 30, 38, 55, 2}, {23, 43, 30, 39, 55, 3}, {33, 33, 30, 39, 55, 3}, {30, 30, 30, 41, 55, 3}};
+        int[] moon = {2, 1, 1, 0};
+        for (int i = 0; i < 4; i++) {
+            due("undo()", x.undo(), 1);
+            due("MOON", x.count(3), moon[i]);
+            for (int lot = 0; lot < 6; lot++) due("HEADS of LOT " + lot, x.of(lot, 2), want[i][lot]);
+        }
+        due("undo()", x.undo(), NO);
+    }
+
     static void p34_lots_that_came_and_went_since_leave_them() {
         DragonTithe x = rich();
         x.lot(0, 0, 1);

@@ -152,6 +152,31 @@ public final class EdgesTextTest extends Edges {
         fault("county 3;lotlot 0 0 1;", 9);
     }
 
+    static void p13_a_word_that_is_none_where_a_number_is_due() {
+        fault("county x 3;", 7);
+        fault("county 3;lot x 0 1;", 13);
+        fault("county 3;lot 0 x 1;", 15);
+        fault("county 3;lot 0 0 x;", 17);
+        fault("county 3;cloud 0 x;", 17);
+        fault("county 3;road 0 x;", 16);
+    }
+
+    static void p13_a_word_that_is_none_where_a_stop_is_due() {
+        fault("county 3 x", 9);
+        fault("county 3 x;", 9);
+        fault("county 3;growth 1 x;", 18);
+    }
+
+    /** Each letter of each word, one further in the row of letters. */
+    static void p13_each_letter_of_each_word_counts() {
+        for (int i = 0; i < 6; i++) {
+            for (int at = WORDS[i]; at < BEHIND_WORDS[i]; at++) {
+                char other = (char) (ALL.charAt(at) == 'z' ? 'a' : ALL.charAt(at) + 1);
+                fault(ALL.substring(0, at) + other + ALL.substring(at + 1), WORDS[i]);
+            }
+        }
+    }
+
     static void p13_a_word_in_great_letters_is_none() {
         fault("County 3;", 0);
         fault("COUNTY 3;", 0);
@@ -467,6 +492,22 @@ public final class EdgesTextTest extends Edges {
         type(x, "county 5;");
         due("read()", x.read(), 1);
         due("digest", x.digest(), digestOf(5, 0, 0, 0, 0, 9, 0, 0, 0, 0, 0, 0, 0, 0, 0, 7, 10));
+    }
+
+    /** On one object: what an earlier TEXT left at any of its TOKENS does not help a later one. */
+    static void p13_a_fault_leaves_no_trace_in_the_next() {
+        String[] earlier = {"", "county", "county county", "county 3", "county 3;", "county 3;lot 0", "county 3;lot", ";", "3", "#", "x"};
+        String[] later = {"", "x", "x 3;", "#", "3", ";", "county", "county x", "county 3", "county x 3;", "county 3;x"};
+        int[] faults = {0, 0, 0, 0, 0, 0, 6, 7, 8, 7, 9};
+        for (String first : earlier) {
+            for (int i = 0; i < later.length; i++) {
+                DragonTithe x = text(Edges::fresh, first).make();
+                x.read();
+                x.clear();
+                type(x, later[i]);
+                due("read() of '" + later[i] + "' behind '" + first + "'", x.read(), -10 - faults[i]);
+            }
+        }
     }
 
     static void p13_counts_nothing_in_status() {
