@@ -89,8 +89,13 @@ abstract class Edges {
      * LOTS LIVING 0 26, SUNK 0 46, PAINTED 1 30, LENT 2 33, RUNT 2 60, DECOY 1 2; SIGHTS 49, 64, 48; GROWTH 3;
      * ROADS 0 1, and 2 1 guarded; ODDS 2, 5, 0; MOON 2; 4 may be undone; 36 bytes; IMAGE 0; 7 by 10; each reason once.
      */
-    static DragonTithe rich() {
-        DragonTithe x = new DragonTithe();
+    static DragonTithe rich() { return madeRich(new DragonTithe()); }
+
+    /** How many calls madeRich makes. */
+    static final int RICH_CALLS = 71;
+
+    /** From three VILLAGES without LOTS and an empty TEXT on. */
+    static DragonTithe madeRich(DragonTithe x) {
         for (int i = 0; i < 11; i++) x.lot(0, 0, 0);
         x.county(3);
         int[][] lots = {{0, 0, 30}, {1, 0, 30}, {2, 1, 30}, {3, 2, 41}, {4, 2, 55}, {5, 1, 3}};

@@ -20,7 +20,7 @@ public final class LanguageTest {
         + "part:long(int) image:int(int) from:int(int) status:int(int) count:int(int) digest:long()";
     private static final String[] RULED_OUT = {"throw", "throws", "try", "catch", "finally", "synchronized", "assert", "import", "package",
         "protected", "native", "volatile", "transient", "Object", "System\\s*\\.\\s*(?!arraycopy)", "Random", "Thread", "hashCode", "toString",
-        "Exact", "->", "::", "\\?\\s*extends", "new\\s+\\w+\\s*\\([^)]*\\)\\s*\\{", "var"};
+        "Exact", "static\\s*(?=\\{)", "->", "::", "\\?\\s*extends", "new\\s+\\w+\\s*\\([^)]*\\)\\s*(?=\\{)", "var"};
     private static int wrong = 0;
 
     public static void main(String[] args) throws Exception {
@@ -90,7 +90,17 @@ public final class LanguageTest {
             Matcher m = Pattern.compile(edge + word + (edge.isEmpty() || word.endsWith(")") ? "" : "\\b")).matcher(code);
             fail(m.find(), word + " stands in the source");
         }
+        library(code);
         lengths(all.split("\n"));
+    }
+
+    /** What is called by a class's name is the class's own, or of the library that rule 4 leaves. */
+    private static void library(String code) {
+        Set<String> own = new TreeSet<>();
+        for (Class<?> c : DragonTithe.class.getDeclaredClasses()) own.add(c.getSimpleName());
+        Set<String> left = Set.of("Math.min", "Math.max", "Math.abs", "Integer.bitCount", "System.arraycopy");
+        Matcher m = Pattern.compile("\\b([A-Z]\\w*[a-z]\\w*)\\s*\\.\\s*(\\w+)\\s*\\(").matcher(code);
+        while (m.find()) fail(!own.contains(m.group(1)) && !left.contains(m.group(1) + "." + m.group(2)), m.group() + " is not of the library");
     }
 
     /** From a method's head, four or eight blanks in, to the brace that ends it. */
