@@ -57,7 +57,7 @@ public final class ReadmeTest {
     }
 
     private static void run(String source) throws Exception {
-        Path dir = Files.createTempDirectory("readme");
+        Path dir = Files.createDirectories(Path.of("build", "ci", "readme"));
         Path file = Files.writeString(dir.resolve("ReadmeExamples.java"), source);
         String own = System.getProperty("java.class.path");
         int failed = ToolProvider.getSystemJavaCompiler().run(null, null, null, "-cp", own, "-d", dir.toString(), file.toString());
